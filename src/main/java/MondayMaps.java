@@ -515,7 +515,7 @@ public final class MondayMaps {
                 place++;
             }
             began = place;
-            return look();
+            return place < length ? bytes[place] : NONE;
         }
 
         void pass() {
@@ -554,13 +554,9 @@ public final class MondayMaps {
             return b >= '0' && b <= '9';
         }
 
-        static boolean isLetter(int b) {
-            return b >= 'a' && b <= 'z';
-        }
-
         private int endOfWord() {
             int at = place;
-            while (at < length && isLetter(bytes[at])) {
+            while (at < length && bytes[at] >= 'a' && bytes[at] <= 'z') {
                 at++;
             }
             return at;
@@ -648,6 +644,7 @@ public final class MondayMaps {
         private final int[] openDays = new int[2 * ROOM];
         private final int[] saintCorner = new int[MOST_SAINTS];
         private final int[] saintDate = new int[MOST_SAINTS];
+        private final int[] saintsOf = new int[ROOM];
         int corners;
         int streets;
         int saints;
@@ -661,6 +658,7 @@ public final class MondayMaps {
             System.arraycopy(other.openDays, 0, openDays, 0, openDays.length);
             System.arraycopy(other.saintCorner, 0, saintCorner, 0, saintCorner.length);
             System.arraycopy(other.saintDate, 0, saintDate, 0, saintDate.length);
+            System.arraycopy(other.saintsOf, 0, saintsOf, 0, saintsOf.length);
             corners = other.corners;
             streets = other.streets;
             saints = other.saints;
@@ -681,6 +679,9 @@ public final class MondayMaps {
                 }
                 readClause(tape, kind);
                 more = tape.takeSemicolon();
+            }
+            for (int i = 0; i < streets; i++) {
+                findSaints(i);
             }
         }
 
@@ -787,6 +788,7 @@ public final class MondayMaps {
             for (int day = 0; day < WEEK; day++) {
                 placeSign(streets, day, BOTH_WAYS);
             }
+            findSaints(streets);
         }
 
         boolean hasStreet(int street) {
@@ -809,14 +811,14 @@ public final class MondayMaps {
             return ends[2 * street + 1 - side];
         }
 
-        private boolean hasSaint(int street, long day) {
-            int date = (int) (day % YEAR);
+        /** Which SAINTS close a street, as bits. */
+        private void findSaints(int street) {
+            saintsOf[street] = 0;
             for (int i = 0; i < saints; i++) {
-                if (saintDate[i] == date && sideOf(street, saintCorner[i]) != NONE) {
-                    return true;
+                if (sideOf(street, saintCorner[i]) != NONE) {
+                    saintsOf[street] |= 1 << i;
                 }
             }
-            return false;
         }
 
         /** The hours of a day, as bits, at which a street is open from a side. */
@@ -824,8 +826,12 @@ public final class MondayMaps {
             if (((openDays[2 * street + side] >> (int) (day % WEEK)) & 1) == 0) {
                 return 0;
             }
-            if (heedSaints && hasSaint(street, day)) {
-                return 0;
+            int bits = heedSaints ? saintsOf[street] : 0;
+            for (int i = 0; bits != 0 && i < MOST_SAINTS; i++) {
+                if ((bits & 1) != 0 && saintDate[i] == (int) (day % YEAR)) {
+                    return 0;
+                }
+                bits >>= 1;
             }
             return ALL_HOURS & ~lifted[street];
         }
@@ -916,10 +922,12 @@ public final class MondayMaps {
         private final int[] code = new int[MOST_BYTES];
         private int length;
         int clauses;
+        boolean hasAside;
 
         void clear() {
             clauses = 0;
             length = 0;
+            hasAside = false;
         }
 
         boolean isFull() {
@@ -929,6 +937,7 @@ public final class MondayMaps {
         void addClause(int deed) {
             if (!isFull()) {
                 deeds[clauses] = deed;
+                hasAside = hasAside || deed == ASIDE;
                 clauses++;
                 starts[clauses] = length;
             }
@@ -990,20 +999,23 @@ public final class MondayMaps {
             }
         }
 
+        /** An or waits until its second PART is whole; and joins at once. */
         private void readTest(int depth) {
-            readPart(depth);
-            for (int i = 0; i < MOST_BYTES && !tape.isFaulty() && tape.takeWord("or"); i++) {
-                readPart(depth);
-                rule.addToken(OR);
-            }
-        }
-
-        private void readPart(int depth) {
             readFact(depth);
-            for (int i = 0; i < MOST_BYTES && !tape.isFaulty() && tape.takeWord("and"); i++) {
-                readFact(depth);
-                rule.addToken(AND);
+            int waiting = NONE;
+            for (int i = 0; i < MOST_BYTES && !tape.isFaulty(); i++) {
+                if (tape.takeWord("and")) {
+                    readFact(depth);
+                    rule.addToken(AND);
+                } else if (tape.takeWord("or")) {
+                    addWaiting(waiting);
+                    waiting = OR;
+                    readFact(depth);
+                } else {
+                    break;
+                }
             }
+            addWaiting(waiting);
         }
 
         private void readFact(int depth) {
@@ -1013,7 +1025,10 @@ public final class MondayMaps {
             boolean isNot = tape.takeWord("not");
             boolean isBracket = !isNot && tape.takeByte('[');
             if (!isNot && !isBracket) {
-                readComparison();
+                readSum();
+                int sign = readSign();
+                readSum();
+                rule.addToken(sign);
             } else if (depth >= MOST_DEPTH) {
                 tape.blame(tape.began, TOO_DEEP);
             } else if (isNot) {
@@ -1025,13 +1040,6 @@ public final class MondayMaps {
                     tape.blameHere();
                 }
             }
-        }
-
-        private void readComparison() {
-            readSum();
-            int sign = readSign();
-            readSum();
-            rule.addToken(sign);
         }
 
         private int readSign() {
@@ -1433,9 +1441,10 @@ public final class MondayMaps {
         private final long[] stack = new long[MOST_STACK];
         private int top;
         // What the walker sees before his STEP, so that each WORD need not look again.
-        private int chart;
         private int ahead;
         private boolean aheadOpen;
+        private int aside;
+        private int left;
         /** As ROUND has it: no SAINTS, no asking, the MAP as it is. */
         boolean circling;
 
@@ -1460,12 +1469,13 @@ public final class MondayMaps {
             if (w.isAtGoal()) {
                 return NOTHING;
             }
-            lookAround(w);
-            int deed = chooseDeed(w);
+            Rule rule = w.rule >= 0 && w.rule < rules.length ? rules[w.rule] : null;
+            lookAround(w, rule != null && rule.hasAside);
+            int deed = rule != null ? chooseDeed(w, rule) : aheadOpen ? GO : WAIT;
             if (deed == GO) {
                 follow(w, ahead);
             } else if (deed == ASIDE) {
-                follow(w, streetAside(w));
+                follow(w, aside);
             } else {
                 if (deed == ASK) {
                     w.askedDay = w.dayNow();
@@ -1477,10 +1487,17 @@ public final class MondayMaps {
             return deed;
         }
 
-        private void lookAround(Walker w) {
-            chart = w.askedToday() && !circling ? Atlas.ofWeekday(w.dayNow()) : w.map;
+        private void lookAround(Walker w, boolean asideToo) {
+            int chart = w.askedToday() && !circling ? Atlas.ofWeekday(w.dayNow()) : w.map;
             ahead = atlas.streetBy(chart, w.corner, w.goal);
             aheadOpen = ahead != NONE && isOpenFor(w, ahead);
+            left = Math.max(0, atlas.hoursBy(chart, w.corner, w.goal));
+            aside = NONE;
+            for (int i = 0; asideToo && aside == NONE && i < state.town.streets; i++) {
+                if (isOpenFor(w, i)) {
+                    aside = i;
+                }
+            }
         }
 
         private boolean isOpenFor(Walker w, int street) {
@@ -1501,20 +1518,7 @@ public final class MondayMaps {
             w.hour += state.town.hours[street];
         }
 
-        private int streetAside(Walker w) {
-            for (int i = 0; i < state.town.streets; i++) {
-                if (isOpenFor(w, i)) {
-                    return i;
-                }
-            }
-            return NONE;
-        }
-
-        private int chooseDeed(Walker w) {
-            if (w.rule < 0 || w.rule >= rules.length) {
-                return aheadOpen ? GO : WAIT;
-            }
-            Rule rule = rules[w.rule];
+        private int chooseDeed(Walker w, Rule rule) {
             for (int i = 0; i < rule.clauses; i++) {
                 int deed = rule.deedOf(i);
                 if (mayDo(w, deed) && holds(w, rule, i)) {
@@ -1529,7 +1533,7 @@ public final class MondayMaps {
                 case GO:
                     return aheadOpen;
                 case ASIDE:
-                    return streetAside(w) != NONE;
+                    return aside != NONE;
                 case ASK:
                     return !circling && !w.askedToday();
                 default:
@@ -1617,7 +1621,7 @@ public final class MondayMaps {
                 case 5:
                     return aheadOpen ? 0 : 1;
                 case 6:
-                    return Math.max(0, atlas.hoursBy(chart, w.corner, w.goal));
+                    return left;
                 case 7:
                     return circling ? 0 : w.steps;
                 case 8:
