@@ -162,6 +162,10 @@ public final class FaultTest {
         rule("go if left and shut = 1", 11, 0);
         rule("go if [left] = 1", 11, 0);
         rule("go if if", 6, 0);
+        rule("go of 1=1", 3, 0);
+        rule("go if 1=1 ar 1=1", 10, 0);
+        rule("go if 1=1 end 1=1", 10, 0);
+        rule("go if dot 1=1", 6, 0);
         goodRule("go");
         goodRule(" wait ; ask;aside if left=1;go if[not[hour<5]or day>=3 and 7<=date]");
         goodRule("go if 1<left and not shut=1or corner=2and goal>2*hour+3-came/asked-steps");

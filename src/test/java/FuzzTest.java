@@ -93,11 +93,11 @@ public final class FuzzTest {
 
     private void play() throws Exception {
         int mode = below(4);
+        for (int i = below(4); i > 0; i--) {
+            sayRule();
+        }
         if (chance(90)) {
             sayTown();
-        }
-        for (int i = below(3); i > 0; i--) {
-            sayRule();
         }
         while (calls < 250 && !wrong) {
             if (chance(2)) {
@@ -119,6 +119,12 @@ public final class FuzzTest {
         }
         for (int i = below(5); i > 0; i--) {
             call("print", below(7));
+        }
+        for (int i = below(4); i > 0; i--) {
+            call("walker", corner(), corner(), below(2), below(3) - 1, hour());
+        }
+        for (int i = below(4); i > 0; i--) {
+            call("misprint", below(3), below(6), below(4));
         }
     }
 
@@ -234,7 +240,7 @@ public final class FuzzTest {
     /** Dear calls of the Oracle are asked more seldom. */
     private void ask(int mode) throws Exception {
         String name = NAMES[4 + below(NAMES.length - 4)];
-        if ((name.equals("built") || name.equals("back") || name.equals("strangers")) && chance(70)) {
+        if ((name.equals("built") || name.equals("strangers")) && chance(70)) {
             return;
         }
         if (mode == 1 && chance(30)) {
@@ -293,7 +299,7 @@ public final class FuzzTest {
             case "seed" -> new int[] {random.nextInt() >>> below(31)};
             case "strangers" -> new int[] {below(4) - 1, 1 + below(30), 1 + below(200), below(2)};
             case "count" -> new int[] {below(13)};
-            case "image", "back" -> new int[] {below(5)};
+            case "image", "back" -> new int[] {chance(5) ? 4 : below(2)};
             default -> throw new AssertionError(name);
         };
     }

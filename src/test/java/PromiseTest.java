@@ -545,6 +545,17 @@ public final class PromiseTest {
         due("p16 odd hours: one can still be there", n.way(0, 2, 1, 22), 1);
         MondayMaps o = Desk.at("corners 3;street 0 1 1 =======");
         due("p16 no way", o.way(0, 2, 0, 0), -2);
+        // Street 2 is shut by its saint on Tuesday: who goes to corner 1 on Monday can still be back in time.
+        MondayMaps q = Desk.at("corners 3;street 0 1 9 =......;street 1 0 1 .=.....;street 0 2 1 .======;saint 2 1");
+        due("p16 Wednesday", q.soonest(0, 2, 0), 49);
+        due("p16 aside on Monday", q.way(0, 2, 0, 0), 0);
+        due("p16 and back", q.way(0, 2, 0, 1), 0);
+        due("p16 and aside", q.way(0, 2, 0, 2), 0);
+        due("p16 back on Tuesday", q.way(0, 2, 0, 3), 1);
+        MondayMaps r = Desk.at("corners 3;street 0 1 5 =......;street 1 2 5 ======.;saint 2 1;lift 1 0 22");
+        due("p16 begun at the last hour it can be", r.soonest(0, 2, 0), 27);
+        due("p16 begun at the last hour it can be", r.way(0, 2, 0, 0), 0);
+        due("p16 not on the saint's day", r.soonest(0, 2, 20), 2 * 24 + 22 + 5);
     }
 
     private static void p17Comes() {
@@ -607,6 +618,18 @@ public final class PromiseTest {
         MondayMaps o = withRules(ring + "4 >>>>>>>", "go;aside");
         o.walker(0, 3, 0, 0, 0);
         round("a ring of 11 hours: 504 steps", o, 0, -2, -2);
+        // He waits for Saturday at eleven, goes, and waits for good: 132 steps and 168; an hour later it is too late.
+        String late = "corners 3;street 0 1 1 .....=.;street 1 2 1 .......;lift 0 0 ";
+        MondayMaps p = Desk.at(late + "11");
+        p.print(5);
+        p.misprint(0, 1, 3);
+        p.walker(0, 2, 0, NONE, 0);
+        round("within 300", p, 0, 132, 168);
+        p = Desk.at(late + "12");
+        p.print(5);
+        p.misprint(0, 1, 3);
+        p.walker(0, 2, 0, NONE, 0);
+        round("not within 300", p, 0, -2, -2);
         // No saints, no asking, date and steps 0, asked as now.
         MondayMaps q = withRules("corners 2;street 0 1 1 =======;saint 0 0", "go if date>0 or steps>0;ask",
             "go if asked=0;ask");
@@ -900,6 +923,7 @@ public final class PromiseTest {
         due("p30 by a rule: n steps", m.strangers(1, 30, 5, 0), 30 - hours / 3);
         due("p30 by a rule: n steps", m.strangers(1, 30, 6, 0), 30);
         due("p30 by a rule: hours", m.strangers(1, 30, 6, 1), hours / 3 * 8);
+        due("p30 one step of one", m.strangers(NONE, 1, 1, 0), 1);
         due("p30 no rule", m.strangers(2, 1, 1, 0), NONE);
         due("p30 no rule", m.strangers(-2, 1, 1, 0), NONE);
         due("p30 m", m.strangers(NONE, 0, 1, 0), NONE);
@@ -982,6 +1006,10 @@ public final class PromiseTest {
         about("p33 walker", m, 0, 0, 2, 0, 0, 6, 2, 1, NONE);
         due("p33 misprint", m.shown(0, 0), 2);
         due("p33 by the map", m.by(0, 1, 0, 0), 2);
+        m.misprint(0, 0, 0);
+        due("p33 by the map misprinted", m.by(0, 1, 0, 0), 12);
+        due("p33 back", m.back(0), 1);
+        due("p33 by the map as it was", m.by(0, 1, 0, 0), 2);
         due("p33 asked on that day", m.comes(0, 5, 2), 0);
         due("p33 town", m.soonest(0, 2, 0), 9);
         due("p33 sights", m.weekdays(0), 34);
