@@ -86,7 +86,7 @@ public final class AskEdgeTest {
 
     /** He waits for Saturday, goes, and waits for good: so many STEPS till then, and a week. */
     private static void roundWithin() {
-        DESK.sentence("behind how many STEPS at least he is as he was at some earlier one of them within 300");
+        DESK.sentence("behind how many STEPS at least he is as he was at some earlier one of them");
         String town = "corners 3;street 0 1 1 .....=.;street 1 2 1 .......;lift 0 0 ";
         for (int hour = 11; hour <= 12; hour++) {
             MondayMaps m = Desk.at(town + hour);
@@ -117,6 +117,17 @@ public final class AskEdgeTest {
         n.walker(0, 4, 0, 0, 7);
         DESK.due("to 1, at 13", n.step(1, 1), 1);
         round("26 STEPS till 169; 144 waits and 4 STREETS", n, 1, 26, 148);
+        MondayMaps swing = with("corners 3;street 0 1 5 >>>>>>>;street 1 0 6 >>>>>>>", "aside");
+        swing.walker(0, 2, 0, 0, 0);
+        round("eleven HOURS to and fro: 336 STEPS; at 0 from 1 is not at 1 from 0", swing, 0, -2, -2);
+        // To and fro between 1 and 9 till Sunday at 19, then to 0, where he is a week behind the beginning.
+        MondayMaps last = with("corners 10;street 9 0 5 ......>;street 1 9 3 >>>>>>>;street 9 1 2 >>>>>>>;lift 0 0 19;lift 0 20 24",
+            "aside");
+        last.walker(1, 8, 0, 0, 0);
+        DESK.due("at 0, a week later", last.step(0, 66), 0);
+        DESK.due("a week later", last.about(0, 4), 168);
+        last.walker(1, 8, 0, 0, 0);
+        round("at 0 from 9 is not at 1 from none", last, 1, 66, 168);
     }
 
     private static void roundNoSaints() {
@@ -188,6 +199,19 @@ public final class AskEdgeTest {
         DESK.due("there, in 0", m.questions(2, 0), 0);
         m.walker(0, 1, 0, NONE, 143);
         DESK.due("at the last hour of Saturday", m.questions(3, 1), 0);
+        StringBuilder s = new StringBuilder("corners 10");
+        for (int i = 0; i < 9; i++) {
+            s.append(";street " + i + " " + (i + 1) + " 9 =======");
+        }
+        MondayMaps far = Desk.at(s.toString());
+        far.print(0);
+        far.walker(0, 9, 0, NONE, 7);
+        DESK.due("over ten CORNERS", far.questions(0, 81), 0);
+        DESK.due("not sooner", far.questions(0, 80), -2);
+        far.misprint(0, 8, 0);
+        // He asks on each of four DAYS: at 7, 24 (or 25), 48, 72; there are four hours more for it.
+        DESK.due("a question on each DAY", far.questions(0, 85), 4);
+        DESK.due("no sooner", far.questions(0, 84), -2);
     }
 
     private static void questionsAsked() {
@@ -402,6 +426,9 @@ public final class AskEdgeTest {
                 n.misprint(map, 0, map == 9988 % maps ? 3 : 0);
             }
             DESK.due("of " + maps, n.strangers(NONE, 1, 1, 1), 1);
+            n.misprint(9988 % maps, 0, 0);
+            DESK.due("of " + maps + ", shut on it", n.strangers(NONE, 1, 1, 0), 0);
+            n.misprint(9988 % maps, 0, 3);
         }
     }
 
@@ -468,6 +495,7 @@ public final class AskEdgeTest {
         DESK.due("he asked on this DAY: by the copy he goes to 1", m.had(0), 1);
         DESK.due("the ERRAND", m.ways(0, 0), 3);
         DESK.due("the SIGHT", m.weekdays(0), 127);
+        DESK.due("its STREET", m.count(8), 1);
         DESK.due("the other IMAGE", m.back(1), 2);
         DESK.due("its ERRAND", m.built(1, 0, 1), 1);
         DESK.due("its SIGHT", m.weekdays(0), 0);

@@ -31,6 +31,8 @@ public final class RefusalTest {
         bareTown();
         full();
         faults();
+        rulesBehindFaults();
+        townsInPlace();
         neverMade();
         DESK.close();
     }
@@ -331,9 +333,6 @@ public final class RefusalTest {
         for (Scene s : new Scene[] {Scene.EMPTY, Scene.BARE, Scene.HALF}) {
             fault(s, "rule", "go if", Desk.fault(5, 0));
             fault(s, "rule", "wait;aside if not 1=1;", Desk.fault(22, 0));
-            MondayMaps m = s.set();
-            Desk.rule(m, "aside if came=99;go if 1=1 and");
-            DESK.due("the next one has the number", Desk.rule(m, "go"), s == Scene.HALF ? 2 : 0);
         }
         DESK.sentence("Promise 4: in place of the one there was (no MAPS, WALKERS, ERRANDS, SIGHTS, nobody told as come; x stays)");
         for (Scene s : Scene.values()) {
@@ -366,6 +365,66 @@ public final class RefusalTest {
         DESK.due(scene + " " + name + " '" + text + "'", Scene.call(m, name), want);
         like.end(0);
         DESK.holds("but for the TAPE all stays", Scene.picture(m).equals(Scene.picture(like)));
+    }
+
+    /** Nothing of a text that was no RULE, or of the RULE before, is in the next one. */
+    private static void rulesBehindFaults() {
+        DESK.sentence("Promise 5: The TAPE, which is empty then, is a RULE: its number");
+        String[] faulty = {"wait;go if 1=1 and", "aside;aside;aside;x", "wait if 1=1;wait if 1=1", "go if [[[[[[[[[[[", ""};
+        for (String text : faulty) {
+            MondayMaps m = Scene.HALF.set();
+            boolean isRule = Desk.rule(m, text) >= 0;
+            int number = isRule ? 3 : 2;
+            DESK.due("behind '" + text + "'", Desk.rule(m, "ask if 1=2;go"), number);
+            DESK.due("the TAPE is empty", m.count(11), 0);
+            m.walker(2, 1, 1, number, 24 * 8 + 7);
+            DESK.due("by it he goes", m.step(2, 1), 1);
+            DESK.due("at once", m.about(2, 4), 24 * 8 + 10);
+        }
+        MondayMaps m = new MondayMaps();
+        String sixty = "go if 1=1" + " and 1=1".repeat(19);
+        for (int i = 0; i < 6; i++) {
+            DESK.due("sixty VALUES and FACTS each", Desk.rule(m, sixty), i);
+        }
+        MondayMaps n = new MondayMaps();
+        DESK.due("sixty, and a FAULT", Desk.rule(n, sixty + " or"), Desk.fault(sixty.length() + 3, 0));
+        DESK.due("sixty", Desk.rule(n, sixty), 0);
+        DESK.due("twelve CLAUSES, and a FAULT", Desk.rule(n, "go" + ";go".repeat(12)), Desk.fault(36, 4));
+        DESK.due("twelve CLAUSES", Desk.rule(n, "go" + ";go".repeat(11)), 1);
+    }
+
+    /** Behind another TOWN, and behind one that was none, a TOWN is as on a new object. */
+    private static void townsInPlace() {
+        DESK.sentence("Promise 4: The TAPE, which is empty then, is the TOWN in place of the one there was");
+        String[] towns = {"corners 4;street 0 1 2 <.>=.<>;street 2 1 1 >>>....;street 0 3 4 =======;street 3 2 5 <<<=...;saint 0 4",
+            "corners 4;street 3 2 1 =======", "corners 4", "corners 2;street 1 0 9 ...=...;lift 0 5 9;saint 1 4"};
+        String[] before = {"", "corners 1", "corners 4" + ";street 0 1 9 =======".repeat(12) + ";saint 0 3;lift 0 1 9;lift 3 0 24;",
+            "corners 4;street 0 1 9 =======;street 0 2 9 =======;street 0 3 9 =======;lift 2 0 24;saint 3 4;saint 0 0"};
+        for (String town : towns) {
+            for (String other : before) {
+                MondayMaps m = Scene.HALF.set();
+                Desk.town(m, other);
+                MondayMaps fresh = new MondayMaps();
+                Desk.rule(fresh, "ask;go");
+                Desk.rule(fresh, "aside if came=99;wait");
+                fresh.seed(77);
+                DESK.holds("'" + town + "' behind '" + other + "'", settled(m, town).equals(settled(fresh, town)));
+            }
+        }
+    }
+
+    private static List<Integer> settled(MondayMaps m, String town) {
+        Desk.town(m, town);
+        m.print(3);
+        m.print(0);
+        m.walker(1, 0, 0, 0, 70);
+        m.walker(0, 1, 1, 1, 98);
+        m.walker(1, 0, 1, NONE, 99);
+        m.errand(1, 0);
+        m.errand(0, 3);
+        m.sight(0, 3);
+        m.came(0);
+        return Scene.view(m);
     }
 
     private static void neverMade() {

@@ -72,7 +72,7 @@ public final class RoadEdgeTest {
     }
 
     private static void farthest() {
-        DESK.sentence("SOONEST over as many CORNERS and STREETS as there may be");
+        DESK.sentence("how soon one can really be somewhere");
         StringBuilder s = new StringBuilder("corners 10;street 0 2 9.......;street 0 3 9.......;street 0 4 9.......");
         for (int i = 8; i >= 0; i--) {
             s.append(";street " + i + " " + (i + 1) + " 9 >>>>>>>");
@@ -119,6 +119,13 @@ public final class RoadEdgeTest {
         DESK.due("no more", m.way(0, 2, 0, 49), -2);
         DESK.due("from 1 on", m.way(0, 2, 1, 45), 0);
         DESK.due("46 times: from 47 on he could not be back", m.way(0, 2, 1, 46), 1);
+        // Street 0 is begun at midnight alone: at 0, back at 24; at 48 he could not be back, for Thursday is shut.
+        MondayMaps night = Desk.at("corners 3;street 0 1 1 ===.===;street 0 2 1 ...=...;lift 0 1 24;lift 1 0 5");
+        DESK.due("on Thursday at five", night.soonest(0, 2, 0), 78);
+        int[] byNight = {0, 0, 1, -2};
+        for (int k = 0; k < 4; k++) {
+            DESK.due("at midnight " + k, night.way(0, 2, 0, k), byNight[k]);
+        }
         MondayMaps n = Desk.at("corners 3;street 0 1 2 =======;street 1 2 3 =======;street 0 2 4 =======");
         DESK.due("not by 0 and 1", n.soonest(0, 2, 0), 4);
         DESK.due("but by 2", n.way(0, 2, 0, 0), 2);
@@ -217,7 +224,7 @@ public final class RoadEdgeTest {
     }
 
     private static void waysLeast() {
-        DESK.sentence("so that each ERRAND can be done by them: the least such");
+        DESK.sentence("the least such");
         MondayMaps m = Desk.at("corners 4;street 0 1 1 =======;street 2 1 1 =======;street 2 3 1 =======;street 0 3 1 =======");
         DESK.due("no ERRANDS", m.ways(0, 0), 0);
         m.errand(0, 2);
@@ -308,6 +315,13 @@ public final class RoadEdgeTest {
         DESK.due("with the rings", m.ways(0, 0), 8);
         m.errand(2, 5);
         DESK.due("the first and the fifth", m.ways(0, 1), 17);
+        MondayMaps apart = Desk.at("corners 6;street 0 1 1 =======;street 2 3 1 =======;street 5 4 1 =======");
+        for (int corner = 4; corner >= 0; corner -= 2) {
+            apart.errand(NONE, 0);
+            apart.errand(corner, corner + 1);
+            apart.errand(corner + 1, corner);
+            DESK.due("there and back, apart from others", apart.ways(0, 1), 3);
+        }
     }
 
     private static void sights() {
@@ -356,7 +370,7 @@ public final class RoadEdgeTest {
     }
 
     private static void builtHours() {
-        DESK.sentence("a new STREET of so many HOURS (1 to 9)");
+        DESK.sentence("of so many HOURS (1 to 9)");
         MondayMaps m = Desk.at("corners 3;street 0 1 9 =======");
         m.errand(0, 1);
         for (int h = 1; h <= 9; h++) {

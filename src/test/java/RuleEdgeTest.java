@@ -140,6 +140,11 @@ public final class RuleEdgeTest {
             fault("go if " + word.toUpperCase() + "=1", 6, 0);
             fault("go if 1=" + word + word, 8, 0);
         }
+        fault("goa", 0, 0);
+        fault("goz", 0, 0);
+        fault("go`", 2, 0);
+        fault("go{", 2, 0);
+        fault("goA", 2, 0);
         fault("goif 1=1", 0, 0);
         fault("go ifhour=1", 3, 0);
         fault("go if hour1=1", 10, 0);

@@ -104,10 +104,7 @@ enum Scene {
 
     /** What some 240 calls answer: on all that there is, on what is done next, on the TAPE, on the IMAGES. */
     static List<Integer> picture(MondayMaps m) {
-        List<Integer> p = new ArrayList<>();
-        look(m, p);
-        lookAtMapsAndWalkers(m, p);
-        ask(m, p);
+        List<Integer> p = view(m);
         for (int w = 0; w < 4; w++) {
             p.add(m.step(w, 3));
             p.add(m.about(w, 4));
@@ -126,6 +123,15 @@ enum Scene {
         return p;
     }
 
+    /** What is there now, but for the IMAGES and the text on the TAPE; nothing changes by it. */
+    static List<Integer> view(MondayMaps m) {
+        List<Integer> p = new ArrayList<>();
+        look(m, p);
+        lookAtMapsAndWalkers(m, p);
+        ask(m, p);
+        return p;
+    }
+
     private static void look(MondayMaps m, List<Integer> p) {
         for (int what = 0; what < 12; what++) {
             p.add(m.count(what));
@@ -134,8 +140,10 @@ enum Scene {
             for (int what = 0; what < 10; what++) {
                 p.add(m.street(street, what));
             }
-            p.add(m.open(street, street % 2 + 1, 75));
-            p.add(m.open(street, 2, 99));
+            for (int corner = 0; corner < 4; corner++) {
+                p.add(m.open(street, corner, 75));
+                p.add(m.open(street, corner, 100));
+            }
             p.add(m.cheap(street));
         }
     }

@@ -278,6 +278,11 @@ public final class TownEdgeTest {
         DESK.sentence("0 a byte or WORD that can't stand there");
         fault("Corners 2", 0, 0);
         fault("cornerss 2", 0, 0);
+        fault("cornersz2", 0, 0);
+        fault("corners{2", 7, 0);
+        fault("corners`2", 7, 0);
+        fault("corners 2:", 9, 0);
+        fault("corners 2/", 9, 0);
         fault("corner 2", 0, 0);
         fault("corners two", 8, 0);
         fault("corners -2", 8, 0);

@@ -88,6 +88,9 @@ public final class WalkEdgeTest {
         m.misprint(1, 0, 2);
         DESK.due("misprinted the other way", m.by(1, 1, 0, 0), 9);
         DESK.due("not there", m.by(1, 0, 1, 0), -2);
+        MondayMaps first = Desk.at("corners 3;street 1 0 2 =======;street 0 2 3 =======");
+        first.print(0);
+        DESK.due("by way of CORNER 0", first.by(0, 1, 2, 0), 5);
         // The farthest of all: ten corners in a row, nine hours each.
         StringBuilder s = new StringBuilder("corners 10");
         for (int i = 0; i < 9; i++) {
@@ -120,7 +123,7 @@ public final class WalkEdgeTest {
     }
 
     private static void mostStreets() {
-        DESK.sentence("STREETS 0 to 11, BY A MAP");
+        DESK.sentence("STREETS 0 to 11");
         MondayMaps m = Desk.at("corners 2" + ";street0 1 9.......".repeat(11) + ";street0 1 9=......");
         m.print(0);
         DESK.due("by the last STREET", m.by(0, 0, 1, 1), 11);
