@@ -27,6 +27,7 @@ public final class AskEdgeTest {
         strangersAtGoal();
         images();
         imagesKeep();
+        imagesKeepWhatIsTold();
         DESK.close();
     }
 
@@ -120,14 +121,20 @@ public final class AskEdgeTest {
         MondayMaps swing = with("corners 3;street 0 1 5 >>>>>>>;street 1 0 6 >>>>>>>", "aside");
         swing.walker(0, 2, 0, 0, 0);
         round("eleven HOURS to and fro: 336 STEPS; at 0 from 1 is not at 1 from 0", swing, 0, -2, -2);
-        // To and fro between 1 and 9 till Sunday at 19, then to 0, where he is a week behind the beginning.
-        MondayMaps last = with("corners 10;street 9 0 5 ......>;street 1 9 3 >>>>>>>;street 9 1 2 >>>>>>>;lift 0 0 19;lift 0 20 24",
-            "aside");
-        last.walker(1, 8, 0, 0, 0);
-        DESK.due("at 0, a week later", last.step(0, 66), 0);
-        DESK.due("a week later", last.about(0, 4), 168);
-        last.walker(1, 8, 0, 0, 0);
-        round("at 0 from 9 is not at 1 from none", last, 1, 66, 168);
+        for (int far = 8; far <= 9; far++) {
+            roundFrom(far);
+        }
+    }
+
+    /** To and fro between 1 and a far CORNER till Sunday at 19, then to 0: a week behind the beginning. */
+    private static void roundFrom(int far) {
+        MondayMaps m = with("corners 10;street " + far + " 0 5 ......>;street 1 " + far + " 3 >>>>>>>;street " + far
+            + " 1 2 >>>>>>>;lift 0 0 19;lift 0 20 24", "aside");
+        m.walker(1, 7, 0, 0, 0);
+        DESK.due("at 0", m.step(0, 66), 0);
+        DESK.due("a week later", m.about(0, 4), 168);
+        m.walker(1, 7, 0, 0, 0);
+        round("at 0 from " + far + " is not at 1 from none", m, 1, 66, 168);
     }
 
     private static void roundNoSaints() {
@@ -167,6 +174,14 @@ public final class AskEdgeTest {
         round("asked is 0", m, 2, 0, 168);
         m.step(2, 1);
         round("asked is 1", m, 2, -2, -2);
+        MondayMaps n = with("corners 2;street 0 1 1 =======", "go if date=0;wait", "wait if hour=0;go if steps=0;wait");
+        n.walker(0, 1, 0, 0, 24 * 5);
+        round("date is 0", n, 0, -2, -2);
+        DESK.due("but really he does not come", n.comes(0, 400, 0), -2);
+        n.walker(0, 1, 0, 1, 0);
+        n.step(1, 1);
+        round("steps is 0", n, 1, -2, -2);
+        DESK.due("but really he does not come", n.comes(1, 400, 0), -2);
     }
 
     private static void roundGoal() {
@@ -212,6 +227,13 @@ public final class AskEdgeTest {
         // He asks on each of four DAYS: at 7, 24 (or 25), 48, 72; there are four hours more for it.
         DESK.due("a question on each DAY", far.questions(0, 85), 4);
         DESK.due("no sooner", far.questions(0, 84), -2);
+        MondayMaps never = Desk.at(s.append(";saint 9 0;saint 9 1;saint 9 2;saint 9 3;saint 9 4;saint 9 5").toString());
+        never.print(0);
+        never.walker(0, 9, 0, NONE, 0);
+        DESK.due("saints at the last CORNER", never.questions(0, 120), -2);
+        never.walker(0, 9, 0, NONE, 34);
+        DESK.due("behind them", never.questions(1, 119), 0);
+        DESK.due("not before", never.questions(1, 118), -2);
     }
 
     private static void questionsAsked() {
@@ -495,7 +517,6 @@ public final class AskEdgeTest {
         DESK.due("he asked on this DAY: by the copy he goes to 1", m.had(0), 1);
         DESK.due("the ERRAND", m.ways(0, 0), 3);
         DESK.due("the SIGHT", m.weekdays(0), 127);
-        DESK.due("its STREET", m.count(8), 1);
         DESK.due("the other IMAGE", m.back(1), 2);
         DESK.due("its ERRAND", m.built(1, 0, 1), 1);
         DESK.due("its SIGHT", m.weekdays(0), 0);
@@ -508,5 +529,28 @@ public final class AskEdgeTest {
         DESK.due("x stays", m.count(10), 33);
         DESK.due("the IMAGES stay", m.back(0), 1);
         DESK.due("the IMAGES stay", m.count(0), 3);
+    }
+
+    private static void imagesKeepWhatIsTold() {
+        DESK.sentence("as it is; gone back to, it is as it was");
+        MondayMaps m = Desk.at("corners 4;street 0 1 1 =......;street 1 2 1 .=.....;street 2 3 1 ..=....");
+        for (int k = 0; k < 3; k++) {
+            m.sight(NONE, 0);
+            m.sight(k, 3);
+            m.errand(NONE, 0);
+            m.errand(k, k + 1);
+            m.image(k);
+        }
+        m.sight(NONE, 0);
+        m.sight(0, 0);
+        m.errand(NONE, 0);
+        m.errand(3, 0);
+        for (int k = 2; k >= 0; k--) {
+            m.back(k);
+            DESK.due("the SIGHT on STREET " + k, m.weekdays(0), 1 << k);
+            for (int day = 0; day < 3; day++) {
+                DESK.due("the ERRAND from CORNER " + k + " on weekday " + day, m.ways(day, 1), day == k ? 0 : 1);
+            }
+        }
     }
 }

@@ -381,6 +381,12 @@ public final class RefusalTest {
             DESK.due("by it he goes", m.step(2, 1), 1);
             DESK.due("at once", m.about(2, 4), 24 * 8 + 10);
         }
+        MondayMaps bare = Desk.at("corners 2;street 0 1 1 =======");
+        bare.print(0);
+        Desk.rule(bare, "wait if 1=2 and");
+        DESK.due("behind a TEST that does not hold", Desk.rule(bare, "aside;wait"), 0);
+        bare.walker(0, 1, 0, 0, 0);
+        DESK.due("its first CLAUSE has none", bare.step(0, 1), 1);
         MondayMaps m = new MondayMaps();
         String sixty = "go if 1=1" + " and 1=1".repeat(19);
         for (int i = 0; i < 6; i++) {

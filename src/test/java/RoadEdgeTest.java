@@ -130,6 +130,14 @@ public final class RoadEdgeTest {
         DESK.due("not by 0 and 1", n.soonest(0, 2, 0), 4);
         DESK.due("but by 2", n.way(0, 2, 0, 0), 2);
         DESK.due("no more", n.way(0, 2, 0, 1), -2);
+        // From 2 one must leave by three, if straight, but by eight, if by 3: who is at 1 at four is in time.
+        MondayMaps late = Desk.at("corners 5;street 0 1 4 >>>>>>>;street 0 3 1 >>>>>>>;street 1 2 1 >>>>>>>;"
+            + "street 2 3 1 >>>>>>>;street 3 4 1 >>>>>>>;street 2 4 7 >>>>>>>;lift 4 0 9");
+        DESK.due("by the street that is down till nine", late.soonest(0, 4, 0), 10);
+        int[] inTime = {0, 2, 3, 4, -2};
+        for (int k = 0; k < 5; k++) {
+            DESK.due("in time " + k, late.way(0, 4, 0, k), inTime[k]);
+        }
     }
 
     private static void wayLong() {

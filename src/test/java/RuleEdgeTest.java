@@ -107,6 +107,7 @@ public final class RuleEdgeTest {
             holds(a + ">=5", 0, a >= 5);
             holds(a + ">5", 0, a > 5);
         }
+        signsTogether();
         DESK.sentence("SUM: TERM { (+ or -) TERM }. TERM: VALUE { (* or /) VALUE }");
         holds("9-3-2=4", 0, true);
         holds("9-3+2=8", 0, true);
@@ -117,6 +118,23 @@ public final class RuleEdgeTest {
         holds("5*7/2=17", 0, true);
         holds("1-2*3/4+5=5", 0, true);
         holds("4=2+1*2", 0, true);
+    }
+
+    /** A FACT holds or not, whatever its SIGN is. */
+    private static void signsTogether() {
+        String[] holding = {"4<5", "4<=5", "5=5", "6>=5", "6>5"};
+        String[] failing = {"5<4", "5<=4", "5=4", "5>=6", "5>6"};
+        for (int i = 0; i < 5; i++) {
+            for (int j = 0; j < 5; j++) {
+                holds(holding[i] + " and " + holding[j], 0, true);
+                holds(holding[i] + " and not " + failing[j], 0, true);
+                holds(holding[i] + " and " + failing[j], 0, false);
+                holds(failing[i] + " or " + holding[j], 0, true);
+                holds(failing[i] + " or not " + holding[j], 0, false);
+            }
+            holds("not " + holding[i], 0, false);
+            holds("not not " + holding[i], 0, true);
+        }
     }
 
     private static void numbers() {

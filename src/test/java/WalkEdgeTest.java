@@ -133,6 +133,24 @@ public final class WalkEdgeTest {
         Desk.rule(m, "aside");
         m.walker(1, 0, 0, 0, 23);
         DESK.due("or aside by it", m.step(1, 1), 0);
+        String[] signs = {".><=.><", "><=.><=", "<=.><=.", "=.><=.>"};
+        StringBuilder s = new StringBuilder("corners 2");
+        for (int i = 0; i < 12; i++) {
+            s.append(";street0 1 9" + signs[i % 4]);
+        }
+        MondayMaps n = Desk.at(s.toString());
+        for (int map = 0; map < 4; map++) {
+            DESK.due("four MAPS of them", n.print(map), map);
+        }
+        for (int map = 0; map < 4; map++) {
+            for (int street = 0; street < 12; street++) {
+                DESK.due("on MAP " + map + " STREET " + street, n.shown(map, street), (map + street) % 4);
+            }
+            DESK.due("there by MAP " + map, n.by(map, 0, 1, 1), map == 0 ? 1 : map == 1 ? 0 : map == 2 ? 1 : 0);
+            DESK.due("back by MAP " + map, n.by(map, 1, 0, 1), map == 0 ? 2 : map == 1 ? 1 : 0);
+            DESK.due("a STREET is built", n.built(1, 0, 2), 0);
+            DESK.due("it is on no MAP", n.by(map, 0, 1, 0), 9);
+        }
     }
 
     private static void walkers() {
