@@ -87,7 +87,7 @@ public final class AskEdgeTest {
 
     /** He waits for Saturday, goes, and waits for good: so many STEPS till then, and a week. */
     private static void roundWithin() {
-        DESK.sentence("behind how many STEPS at least he is as he was at some earlier one of them");
+        DESK.sentence("behind how many STEPS at least he is as he was at some earlier one of them .. within 300: LEAD-IN, length");
         String town = "corners 3;street 0 1 1 .....=.;street 1 2 1 .......;lift 0 0 ";
         for (int hour = 11; hour <= 12; hour++) {
             MondayMaps m = Desk.at(town + hour);
@@ -317,7 +317,7 @@ public final class AskEdgeTest {
         m.came(1);
         m.came(1);
         DESK.due("not twice", m.had(0), 0);
-        DESK.sentence("MAPS by which a WALKER comes to these first, in this order (of one he comes to by a STREET, goal or not)");
+        DESK.sentence("MAPS by which a WALKER .. comes to these first, in this order (of one he comes to by a STREET, goal or not)");
         MondayMaps n = with(ROW);
         for (int i = 1; i < 4; i++) {
             n.print(0);

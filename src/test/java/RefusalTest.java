@@ -199,7 +199,7 @@ public final class RefusalTest {
     }
 
     private static void told() {
-        DESK.sentence("Promise 22: (from NONE: there are none then, 0): -2, and nothing happens, without these (unlike CORNERS), or if there are 6");
+        DESK.sentence("Promise 22: An ERRAND (from NONE: there are none then, 0): how many; -2, and nothing happens, without these (unlike CORNERS), or if there are 6");
         ranges(Scene.HALF, -2, "errand", a(2, 1), a(-1, 3), a(0, 3));
         for (int corner = 0; corner < 4; corner++) {
             refused(Scene.HALF, -2, "errand", corner, corner);
@@ -207,12 +207,12 @@ public final class RefusalTest {
         refused(Scene.FULL, -2, "errand", 2, 1);
         refused(Scene.EMPTY, -2, "errand", 2, 1);
         cleared("errand", 7, NONE, 99);
-        DESK.sentence("Promise 24: (street NONE: there are none then, 0): -2, and nothing happens, without these, or if there are 12");
+        DESK.sentence("Promise 24: A SIGHT (street NONE: there are none then, 0): how many; -2, and nothing happens, without these, or if there are 12");
         ranges(Scene.HALF, -2, "sight", a(0, 0), a(-1, 3), a(0, 3));
         refused(Scene.FULL, -2, "sight", 0, 0);
         refused(Scene.EMPTY, -2, "sight", 0, 0);
         cleared("sight", 8, NONE, 99);
-        DESK.sentence("Promise 26: (NONE: none is, 0): -2, and nothing happens, without it, or if there are 8");
+        DESK.sentence("Promise 26: A CORNER that was come to is told (NONE: none is, 0): how many; -2, and nothing happens, without it, or if there are 8");
         ranges(Scene.HALF, -2, "came", a(0), a(-1, 3));
         refused(Scene.FULL, -2, "came", 0);
         refused(Scene.EMPTY, -2, "came", 0);
@@ -262,7 +262,7 @@ public final class RefusalTest {
         ranges(Scene.HALF, NONE, "count", a(0), a(0, 11));
         DESK.sentence("Promise 32: NONE without it");
         ranges(Scene.HALF, NONE, "image", a(0), a(0, 3));
-        DESK.sentence("Promise 33: NONE, and nothing happens, or without it");
+        DESK.sentence("Promise 33: NONE, and nothing happens .. or without it");
         ranges(Scene.FULL, NONE, "back", a(0), a(0, 3));
     }
 
@@ -291,7 +291,7 @@ public final class RefusalTest {
     }
 
     private static void bareTown() {
-        DESK.sentence("NONE without these: a TOWN without STREETS, MAPS, WALKERS");
+        DESK.sentence("NONE without these");
         refused(Scene.BARE, NONE, "street", 0, 0);
         refused(Scene.BARE, NONE, "open", 0, 0, 0);
         refused(Scene.BARE, NONE, "misprint", 0, 0, 0);

@@ -210,7 +210,7 @@ public final class RoadEdgeTest {
     }
 
     private static void ways() {
-        DESK.sentence("all STREETS that are not shut on it be one way each (bits: of the k-th of these 1, if back)");
+        DESK.sentence("WAYS on a weekday: all STREETS that are not shut on it be one way each (bits: of the k-th of these 1, if back)");
         MondayMaps m = Desk.at("corners 4;street 0 1 1 =..<.==;street 1 2 1 =>.<.==;street 2 3 1 =<><>==");
         m.errand(3, 2);
         int[] want = {4, 2, 1, 4, 1, 4, 4};

@@ -280,7 +280,7 @@ public final class RuleEdgeTest {
     }
 
     private static void deep() {
-        DESK.sentence("[ and not lie within one another 10 deep at most; 2 too deep (at the sign that opens, or the word not)");
+        DESK.sentence("[ and not lie within one another 10 deep at most .. 2 too deep (at the sign that opens, or the word not)");
         good("go if " + "[".repeat(10) + "1=1" + "]".repeat(10));
         fault("go if " + "[".repeat(11) + "1=1" + "]".repeat(11), 16, 2);
         good("go if " + "not ".repeat(10) + "1=1");
