@@ -4,8 +4,6 @@ public final class AnswerEdgeTest {
     private static final int NONE = MondayMaps.NONE;
     private static final int MAX = Integer.MAX_VALUE;
     private static final int MIN = Integer.MIN_VALUE;
-    /** Three corners in a row, and a long street past the middle one. */
-    private static final String ROW = "corners 3;street 0 1 1 =======;street 1 2 1 =======;street 0 2 9 =======";
 
     public static void main(String[] args) {
         constants();
@@ -29,16 +27,6 @@ public final class AnswerEdgeTest {
         nothingChanges();
         facts();
         DESK.close();
-    }
-
-    /** A town with a map of Monday and rules. */
-    private static MondayMaps with(String town, String... rules) {
-        MondayMaps m = Desk.at(town);
-        m.print(0);
-        for (int i = 0; i < rules.length; i++) {
-            DESK.due("'" + rules[i] + "'", Desk.rule(m, rules[i]), i);
-        }
-        return m;
     }
 
     private static void constants() {
@@ -179,7 +167,7 @@ public final class AnswerEdgeTest {
 
     private static void walkers() {
         DESK.sentence("Promise 12: A WALKER sets out: his number");
-        MondayMaps m = with(ROW, "go", "ask;wait");
+        MondayMaps m = DESK.with(Desk.ROW, "go", "ask;wait");
         for (int w = 0; w < 4; w++) {
             DESK.due("his number", m.walker(w % 3, (w + 1) % 3, 0, w % 3 - 1, 100 * w), w);
         }
@@ -226,7 +214,7 @@ public final class AnswerEdgeTest {
         DESK.due("the second", m.way(0, 2, 0, 1), 1);
         DESK.due("no third", m.way(0, 2, 0, 2), -2);
         DESK.sentence("Promise 17: COMES what 0: the hour (-2: he does not), 1: STEPS, 2: how often he ASKED");
-        MondayMaps n = with("corners 3;street 0 1 9 =======;street 1 2 9 .......", "ask;go");
+        MondayMaps n = DESK.with("corners 3;street 0 1 9 =======;street 1 2 9 .......", "ask;go");
         n.walker(0, 1, 0, 0, 40);
         n.walker(0, 2, 0, 0, 40);
         int[] comes = {50, 2, 1};
@@ -244,7 +232,7 @@ public final class AnswerEdgeTest {
 
     private static void asked() {
         DESK.sentence("Promise 19: QUESTIONS; -2: it can't be");
-        MondayMaps m = with("corners 3;street 0 1 1 =======");
+        MondayMaps m = DESK.with("corners 3;street 0 1 1 =======");
         m.misprint(0, 0, 0);
         m.walker(0, 1, 0, NONE, 0);
         DESK.due("one", m.questions(0, 2), 1);
@@ -371,7 +359,7 @@ public final class AnswerEdgeTest {
             DESK.due("his HOURS", m.strangers(NONE, 1, 1, 1), goal == 0 ? 0 : 7);
         }
         DESK.sentence("hour a DRAW mod 168, by a RULE");
-        MondayMaps n = with("corners 10;street 0 8 7 =======", "go if day=4 and hour=13", "go if day*24+hour<109", "go if day*24+hour>109");
+        MondayMaps n = DESK.with("corners 10;street 0 8 7 =======", "go if day=4 and hour=13", "go if day*24+hour<109", "go if day*24+hour>109");
         DESK.due("at 109", n.strangers(0, 1, 1, 0), 1);
         DESK.due("not before", n.strangers(1, 1, 1, 0), 0);
         DESK.due("nor behind", n.strangers(2, 1, 1, 0), 0);
@@ -416,7 +404,7 @@ public final class AnswerEdgeTest {
 
     private static void back() {
         DESK.sentence("Promise 33: All is as in an IMAGE: WALKERS");
-        MondayMaps m = with(ROW);
+        MondayMaps m = DESK.with(Desk.ROW);
         for (int k = 0; k < 4; k++) {
             DESK.due("made", m.image(k), k);
             m.walker(k % 3, 0, 0, NONE, 10 * k);
@@ -458,7 +446,7 @@ public final class AnswerEdgeTest {
 
     private static void facts() {
         DESK.sentence("FACT: not FACT | [ TEST ] (these brackets are signs)");
-        MondayMaps m = with("corners 10;street 9 0 1 =======", "go if [1=2]", "go if not [1=2]", "go if not not [1=1 and not 1=2]",
+        MondayMaps m = DESK.with("corners 10;street 9 0 1 =======", "go if [1=2]", "go if not [1=2]", "go if not not [1=1 and not 1=2]",
             "go if [not[corner=9]or[goal=0]]");
         DESK.due("a bracket is no VALUE", Desk.rule(m, "go if [corner+goal]=9"), Desk.fault(18, 0));
         DESK.due("nor is not", Desk.rule(m, "go if 1=not 1"), Desk.fault(8, 0));
@@ -468,7 +456,7 @@ public final class AnswerEdgeTest {
             DESK.due("by RULE " + w, m.step(w, 1), want[w]);
         }
         DESK.sentence("corner, goal");
-        MondayMaps n = with("corners 10;street 9 0 1 =======", "go if corner=9 and goal=0", "go if corner=0 or goal=9");
+        MondayMaps n = DESK.with("corners 10;street 9 0 1 =======", "go if corner=9 and goal=0", "go if corner=0 or goal=9");
         n.walker(9, 0, 0, 0, 0);
         n.walker(9, 0, 0, 1, 0);
         n.walker(0, 9, 0, 0, 0);

@@ -3,8 +3,6 @@ public final class AskEdgeTest {
     private static final Desk DESK = new Desk("AskEdgeTest");
     private static final int NONE = MondayMaps.NONE;
     private static final int MAX = Integer.MAX_VALUE;
-    /** Three corners in a row, and a long street past the middle one. */
-    private static final String ROW = "corners 3;street 0 1 1 =======;street 1 2 1 =======;street 0 2 9 =======";
 
     public static void main(String[] args) {
         comes();
@@ -31,16 +29,6 @@ public final class AskEdgeTest {
         DESK.close();
     }
 
-    /** A town with a map of Monday and rules. */
-    private static MondayMaps with(String town, String... rules) {
-        MondayMaps m = Desk.at(town);
-        m.print(0);
-        for (int i = 0; i < rules.length; i++) {
-            DESK.due("'" + rules[i] + "'", Desk.rule(m, rules[i]), i);
-        }
-        return m;
-    }
-
     private static void round(String what, MondayMaps m, int walker, int lead, int length) {
         DESK.due(what + ", lead-in", m.round(walker, 0), lead);
         DESK.due(what + ", length", m.round(walker, 1), length);
@@ -48,7 +36,7 @@ public final class AskEdgeTest {
 
     private static void comes() {
         DESK.sentence("COMES: a WALKER's hour when he is at his goal, by so many STEPS (0 to 400)");
-        MondayMaps m = with(ROW, "wait if steps<399;go", "wait if steps<400;go");
+        MondayMaps m = DESK.with(Desk.ROW, "wait if steps<399;go", "wait if steps<400;go");
         m.walker(0, 1, 0, 0, 10);
         DESK.due("in 400", m.comes(0, 400, 0), 410);
         DESK.due("not in 399", m.comes(0, 399, 0), -2);
@@ -73,7 +61,7 @@ public final class AskEdgeTest {
 
     private static void comesAsked() {
         DESK.sentence("how often he ASKED in them");
-        MondayMaps m = with(ROW, "ask;wait");
+        MondayMaps m = DESK.with(Desk.ROW, "ask;wait");
         m.walker(0, 1, 0, 0, 0);
         DESK.due("in 0", m.comes(0, 0, 2), 0);
         DESK.due("in 1", m.comes(0, 1, 2), 1);
@@ -100,7 +88,7 @@ public final class AskEdgeTest {
 
     private static void roundAsHeWas() {
         DESK.sentence("(his CORNER, hour mod 168, came");
-        MondayMaps m = with("corners 3;street 0 1 3 >>>>>>>;street 1 0 4 >>>>>>>", "aside");
+        MondayMaps m = DESK.with("corners 3;street 0 1 3 >>>>>>>;street 1 0 4 >>>>>>>", "aside");
         m.walker(0, 2, 0, 0, 0);
         round("came is none at first", m, 0, 1, 48);
         m.step(0, 2);
@@ -108,7 +96,7 @@ public final class AskEdgeTest {
         m.walker(2, 0, 0, NONE, 99999);
         round("waits a week", m, 1, 0, 168);
         // A spoke to 1 on all days and one to 3 on Sundays: he is at 0 at the same hour, but came from elsewhere.
-        MondayMaps n = with("corners 5;street 0 3 6 ......=;street 0 1 6 =======", "aside");
+        MondayMaps n = DESK.with("corners 5;street 0 3 6 ......=;street 0 1 6 =======", "aside");
         n.walker(0, 4, 0, 0, 0);
         round("of two weeks the first has no came", n, 0, 1, 28);
         n.step(0, 26);
@@ -118,7 +106,7 @@ public final class AskEdgeTest {
         n.walker(0, 4, 0, 0, 7);
         DESK.due("to 1, at 13", n.step(1, 1), 1);
         round("26 STEPS till 169; 144 waits and 4 STREETS", n, 1, 26, 148);
-        MondayMaps swing = with("corners 3;street 0 1 5 >>>>>>>;street 1 0 6 >>>>>>>", "aside");
+        MondayMaps swing = DESK.with("corners 3;street 0 1 5 >>>>>>>;street 1 0 6 >>>>>>>", "aside");
         swing.walker(0, 2, 0, 0, 0);
         round("eleven HOURS to and fro: 336 STEPS; at 0 from 1 is not at 1 from 0", swing, 0, -2, -2);
         for (int far = 8; far <= 9; far++) {
@@ -128,7 +116,7 @@ public final class AskEdgeTest {
 
     /** To and fro between 1 and a far CORNER till Sunday at 19, then to 0: a week behind the beginning. */
     private static void roundFrom(int far) {
-        MondayMaps m = with("corners 10;street " + far + " 0 5 ......>;street 1 " + far + " 3 >>>>>>>;street " + far
+        MondayMaps m = DESK.with("corners 10;street " + far + " 0 5 ......>;street 1 " + far + " 3 >>>>>>>;street " + far
             + " 1 2 >>>>>>>;lift 0 0 19;lift 0 20 24", "aside");
         m.walker(1, 7, 0, 0, 0);
         DESK.due("at 0", m.step(0, 66), 0);
@@ -139,18 +127,18 @@ public final class AskEdgeTest {
 
     private static void roundNoSaints() {
         DESK.sentence("ROUND: with no SAINTS");
-        MondayMaps m = with("corners 2;street 0 1 1 =......;saint 0 0;saint 1 7;saint 0 14");
+        MondayMaps m = DESK.with("corners 2;street 0 1 1 =......;saint 0 0;saint 1 7;saint 0 14");
         m.walker(0, 1, 0, NONE, 0);
         round("he comes at once", m, 0, -2, -2);
         DESK.due("but not really", m.comes(0, 400, 0), -2);
-        MondayMaps n = with("corners 2;street 0 1 1 =======;lift 0 0 24");
+        MondayMaps n = DESK.with("corners 2;street 0 1 1 =======;lift 0 0 24");
         n.walker(0, 1, 0, NONE, 0);
         round("LIFTS are there", n, 0, 0, 168);
     }
 
     private static void roundMap() {
         DESK.sentence("by his MAP as it is (though he ASKED), if ask may not be done");
-        MondayMaps m = with("corners 2;street 0 1 1 =======", "ask;go");
+        MondayMaps m = DESK.with("corners 2;street 0 1 1 =======", "ask;go");
         m.misprint(0, 0, 0);
         m.walker(0, 1, 0, 0, 0);
         round("he may not ask", m, 0, 0, 168);
@@ -163,7 +151,7 @@ public final class AskEdgeTest {
 
     private static void roundWords() {
         DESK.sentence("date and steps are 0 as WORDS, asked as now");
-        MondayMaps m = with("corners 2;street 0 1 1 =======", "go if date>0;wait", "go if steps>0;wait", "ask if asked=0;go if asked=1;wait");
+        MondayMaps m = DESK.with("corners 2;street 0 1 1 =======", "go if date>0;wait", "go if steps>0;wait", "ask if asked=0;go if asked=1;wait");
         m.walker(0, 1, 0, 0, 24 * 5);
         round("date", m, 0, 0, 168);
         DESK.due("but really he comes", m.comes(0, 1, 0), 121);
@@ -174,7 +162,7 @@ public final class AskEdgeTest {
         round("asked is 0", m, 2, 0, 168);
         m.step(2, 1);
         round("asked is 1", m, 2, -2, -2);
-        MondayMaps n = with("corners 2;street 0 1 1 =======", "go if date=0;wait", "wait if hour=0;go if steps=0;wait");
+        MondayMaps n = DESK.with("corners 2;street 0 1 1 =======", "go if date=0;wait", "wait if hour=0;go if steps=0;wait");
         n.walker(0, 1, 0, 0, 24 * 5);
         round("date is 0", n, 0, -2, -2);
         DESK.due("but really he does not come", n.comes(0, 400, 0), -2);
@@ -186,14 +174,14 @@ public final class AskEdgeTest {
 
     private static void roundGoal() {
         DESK.sentence("-2: none (he comes to his goal, or not within 300)");
-        MondayMaps m = with(ROW, "wait if hour<23;go", "wait if day<6 or hour<23;go");
+        MondayMaps m = DESK.with(Desk.ROW, "wait if hour<23;go", "wait if day<6 or hour<23;go");
         m.walker(1, 1, 0, NONE, 0);
         round("he is there", m, 0, -2, -2);
         m.walker(0, 1, 0, NONE, 0);
         round("by one STEP", m, 1, -2, -2);
         m.walker(0, 1, 0, 1, 0);
         round("by 168 STEPS", m, 2, -2, -2);
-        MondayMaps n = with("corners 4;street 0 1 3 >>>>>>>;street 1 2 4 >>>>>>>;street 2 0 4 >>>>>>>", "aside");
+        MondayMaps n = DESK.with("corners 4;street 0 1 3 >>>>>>>;street 1 2 4 >>>>>>>;street 2 0 4 >>>>>>>", "aside");
         n.walker(0, 3, 0, 0, 0);
         round("eleven HOURS round: 504 STEPS", n, 0, -2, -2);
     }
@@ -298,7 +286,7 @@ public final class AskEdgeTest {
     private static void had() {
         DESK.sentence("HAD: CORNERS 0 to 7 that a WALKER came to, one behind the other, were told");
         // From 1 a walker can only go to and fro: by 8 corners told the eighth tells.
-        MondayMaps m = with("corners 3;street 0 1 1 =======;street 1 2 1 .......", "aside");
+        MondayMaps m = DESK.with("corners 3;street 0 1 1 =======;street 1 2 1 .......", "aside");
         m.print(0);
         m.walker(0, 2, 0, 0, 0);
         DESK.due("none told: all MAPS", m.had(0), 3);
@@ -318,7 +306,7 @@ public final class AskEdgeTest {
         m.came(1);
         DESK.due("not twice", m.had(0), 0);
         DESK.sentence("MAPS by which a WALKER .. comes to these first, in this order (of one he comes to by a STREET, goal or not)");
-        MondayMaps n = with(ROW);
+        MondayMaps n = DESK.with(Desk.ROW);
         for (int i = 1; i < 4; i++) {
             n.print(0);
         }
@@ -345,7 +333,7 @@ public final class AskEdgeTest {
 
     private static void hadSteps() {
         DESK.sentence("in 100 STEPS");
-        MondayMaps m = with(ROW, "wait if steps<99;go", "wait if steps<100;go", "wait if steps<98;go");
+        MondayMaps m = DESK.with(Desk.ROW, "wait if steps<99;go", "wait if steps<100;go", "wait if steps<98;go");
         m.walker(0, 2, 0, 0, 0);
         m.walker(0, 2, 0, 1, 0);
         m.walker(0, 2, 0, 2, 0);
@@ -359,7 +347,7 @@ public final class AskEdgeTest {
 
     private static void hadAsHeIs() {
         DESK.sentence("who sets out as he is now (but for the MAP)");
-        MondayMaps m = with(ROW, "go if steps>1 and asked=1 and came=1;ask;aside;wait");
+        MondayMaps m = DESK.with(Desk.ROW, "go if steps>1 and asked=1 and came=1;ask;aside;wait");
         m.print(0);
         m.misprint(1, 0, 0);
         m.walker(1, 2, 0, 0, 0);
@@ -372,7 +360,7 @@ public final class AskEdgeTest {
         DESK.due("by any map: he asked on this DAY", m.had(0), 3);
         m.came(NONE);
         m.came(2);
-        MondayMaps n = with(ROW, "go if steps>1");
+        MondayMaps n = DESK.with(Desk.ROW, "go if steps>1");
         n.print(0);
         n.misprint(1, 0, 0);
         n.walker(0, 2, 0, 0, 0);
@@ -414,7 +402,7 @@ public final class AskEdgeTest {
 
     private static void strangers() {
         DESK.sentence("STRANGERS m times (1 to 30), n STEPS (1 to 200)");
-        MondayMaps m = with("corners 2;street 0 1 1 =======", "wait if steps<199;go", "wait if steps<200;go");
+        MondayMaps m = DESK.with("corners 2;street 0 1 1 =======", "wait if steps<199;go", "wait if steps<200;go");
         int unlike = 0;
         for (int i = 1; i <= 30; i++) {
             int hours = m.strangers(NONE, i, 1, 1);
@@ -434,7 +422,7 @@ public final class AskEdgeTest {
 
     private static void strangersAtGoal() {
         DESK.sentence("how many are at their goal behind these; HOURS that went by, of those");
-        MondayMaps m = with("corners 2", "ask;wait");
+        MondayMaps m = DESK.with("corners 2", "ask;wait");
         // No street: only those come who are there. Of the first two none (0 to 0, since 21468 is even).
         DESK.due("0 to 0", m.strangers(0, 1, 200, 0), 1);
         DESK.due("no HOURS", m.strangers(0, 1, 200, 1), 0);
@@ -481,7 +469,7 @@ public final class AskEdgeTest {
 
     private static void imagesKeep() {
         DESK.sentence("all but the TAPE and the RULES, as it is; gone back to, it is as it was (these stay)");
-        MondayMaps m = with(ROW, "ask;go");
+        MondayMaps m = DESK.with(Desk.ROW, "ask;go");
         m.misprint(0, 0, 0);
         m.walker(0, 2, 0, 0, 5);
         m.step(0, 1);

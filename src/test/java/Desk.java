@@ -1,5 +1,8 @@
 /** What the tests share: texts are fed, answers set against those that are due. */
 final class Desk {
+    /** Three corners in a row, and a long street past the middle one. */
+    static final String ROW = "corners 3;street 0 1 1 =======;street 1 2 1 =======;street 0 2 9 =======";
+
     private final String name;
     private int checks;
     private int wrong;
@@ -78,6 +81,16 @@ final class Desk {
         MondayMaps m = new MondayMaps();
         if (town(m, text) < 0) {
             throw new IllegalStateException(text);
+        }
+        return m;
+    }
+
+    /** A town with a map of Monday, and rules. */
+    MondayMaps with(String town, String... rules) {
+        MondayMaps m = at(town);
+        m.print(0);
+        for (int i = 0; i < rules.length; i++) {
+            due("rule '" + rules[i] + "'", rule(m, rules[i]), i);
         }
         return m;
     }

@@ -8,8 +8,6 @@ public final class PromiseTest {
     /** Corner 1 has a saint on the date 3; street 1 is lifted till six in the morning. */
     private static final String TOWN = "corners 4;street 0 1 2 >>>>>.=;street 1 2 3 =======;street 0 2 9 <======;"
         + "street 2 3 1 .><=.><;saint 1 3;lift 1 0 6";
-    /** Three corners in a row, and a long street past the middle one. */
-    private static final String ROW = "corners 3;street 0 1 1 =======;street 1 2 1 =======;street 0 2 9 =======";
 
     public static void main(String[] args) {
         p1NewObject();
@@ -355,17 +353,8 @@ public final class PromiseTest {
         due("p14 till the saint's day is over", m.comes(3, 400, 0), 4 * 24 + 2);
     }
 
-    private static MondayMaps withRules(String town, String... rules) {
-        MondayMaps m = Desk.at(town);
-        m.print(0);
-        for (int i = 0; i < rules.length; i++) {
-            due("rule '" + rules[i] + "'", Desk.rule(m, rules[i]), i);
-        }
-        return m;
-    }
-
     private static void p14Rules() {
-        MondayMaps m = withRules(ROW, "wait if steps<2;go", "go if 1=2", "aside", "go if steps>0;ask;wait");
+        MondayMaps m = DESK.with(Desk.ROW, "wait if steps<2;go", "go if 1=2", "aside", "go if steps>0;ask;wait");
         m.walker(0, 2, 0, 0, 10);
         due("p14 waits twice", m.step(0, 2), 0);
         due("p14 then goes", m.step(0, 1), 1);
@@ -382,7 +371,7 @@ public final class PromiseTest {
         due("p14 asks first", m.step(3, 1), 0);
         about("p14 asked", m, 3, 0, 1, 0, 3, 11, 1, 1, NONE);
         due("p14 then goes", m.step(3, 1), 1);
-        MondayMaps n = withRules("corners 3;street 0 1 1 >>>>>>>;street 2 1 4 <<<<<<<", "aside;go", "go;aside");
+        MondayMaps n = DESK.with("corners 3;street 0 1 1 >>>>>>>;street 2 1 4 <<<<<<<", "aside;go", "go;aside");
         n.walker(1, 0, 0, 0, 0);
         due("p14 aside may be another way", n.step(0, 1), 2);
         due("p14 no street is open from there", n.step(0, 5), 2);
@@ -392,7 +381,7 @@ public final class PromiseTest {
     /** A walker at 1, from 0, on his third step, goes on only if the test holds. */
     private static void word(String test, boolean holds) {
         String town = "corners 4;street 0 1 3 =======;street 1 2 5 =======;street 2 3 1 .......;saint 3 359";
-        MondayMaps m = withRules(town, "go if corner = 0;ask if asked = 0;go if " + test);
+        MondayMaps m = DESK.with(town, "go if corner = 0;ask if asked = 0;go if " + test);
         m.walker(0, 2, 0, 0, 24 * 359 + 12);
         m.step(0, 2);
         due("p14 " + test, m.step(0, 1), holds ? 2 : 1);
@@ -412,7 +401,7 @@ public final class PromiseTest {
         word("came = 0", true);
         word("came = 99", false);
         word("date=359 and day=2 and hour=16 and steps=2 and left=5", true);
-        MondayMaps m = withRules(TOWN, "aside if came=99 and left=0 and shut=1", "aside if shut=0", "aside if shut=1");
+        MondayMaps m = DESK.with(TOWN, "aside if came=99 and left=0 and shut=1", "aside if shut=0", "aside if shut=1");
         m.walker(0, 3, 0, 0, 0);
         due("p14 no way: left 0, shut 1, came 99", m.step(0, 1), 1);
         due("p14 came is 0 now", m.step(0, 1), 1);
@@ -424,7 +413,7 @@ public final class PromiseTest {
     }
 
     private static void sum(String test, boolean holds) {
-        MondayMaps m = withRules(ROW, "go if " + test);
+        MondayMaps m = DESK.with(Desk.ROW, "go if " + test);
         m.walker(0, 1, 0, 0, 5);
         due("p14 " + test, m.step(0, 1), holds ? 1 : 0);
     }
@@ -464,7 +453,7 @@ public final class PromiseTest {
 
     private static void p14Asking() {
         // By the map street 0 is shut, so that he would go the long way.
-        MondayMaps m = withRules(ROW, "ask;go", "ask if left=9;go if left=2;wait");
+        MondayMaps m = DESK.with(Desk.ROW, "ask;go", "ask if left=9;go if left=2;wait");
         m.misprint(0, 0, 0);
         m.walker(0, 2, 0, 0, 8);
         due("p14 asks", m.step(0, 1), 0);
@@ -576,7 +565,7 @@ public final class PromiseTest {
         due("p17 no such", m.comes(0, 1, -1), NONE);
         due("p17 no walker", m.comes(1, 1, 0), NONE);
         about("p17 nothing changes", m, 0, 0, 2, 0, NONE, 0, 0, 0, NONE);
-        MondayMaps n = withRules(ROW, "ask;wait");
+        MondayMaps n = DESK.with(Desk.ROW, "ask;wait");
         n.walker(0, 2, 0, 0, 0);
         n.step(0, 30);
         due("p17 asked before", n.about(0, 6), 2);
@@ -610,12 +599,12 @@ public final class PromiseTest {
         due("p18 no such", m.round(0, -1), NONE);
         about("p18 nothing changes", m, 0, 0, 2, 0, NONE, 0, 0, 0, NONE);
         String ring = "corners 4;street 0 1 3 >>>>>>>;street 1 2 4 >>>>>>>;street 2 0 ";
-        MondayMaps n = withRules(ring + "5 >>>>>>>", "go;aside");
+        MondayMaps n = DESK.with(ring + "5 >>>>>>>", "go;aside");
         n.walker(0, 3, 0, 0, 0);
         round("a ring of 12 hours", n, 0, 1, 42);
         n.step(0, 1);
         round("a ring of 12 hours, from within", n, 0, 0, 42);
-        MondayMaps o = withRules(ring + "4 >>>>>>>", "go;aside");
+        MondayMaps o = DESK.with(ring + "4 >>>>>>>", "go;aside");
         o.walker(0, 3, 0, 0, 0);
         round("a ring of 11 hours: 504 steps", o, 0, -2, -2);
         // He waits for Saturday at eleven, goes, and waits for good: 132 steps and 168; an hour later it is too late.
@@ -631,7 +620,7 @@ public final class PromiseTest {
         p.walker(0, 2, 0, NONE, 0);
         round("not within 300", p, 0, -2, -2);
         // No saints, no asking, date and steps 0, asked as now.
-        MondayMaps q = withRules("corners 2;street 0 1 1 =======;saint 0 0", "go if date>0 or steps>0;ask",
+        MondayMaps q = DESK.with("corners 2;street 0 1 1 =======;saint 0 0", "go if date>0 or steps>0;ask",
             "go if asked=0;ask");
         q.walker(0, 1, 0, 0, 24);
         round("date and steps are 0", q, 0, 0, 168);
@@ -640,7 +629,7 @@ public final class PromiseTest {
         q.step(1, 1);
         due("p18 he asked", q.about(1, 6), 1);
         round("asked as now", q, 1, 0, 168);
-        MondayMaps r = withRules(ROW, "ask;go");
+        MondayMaps r = DESK.with(Desk.ROW, "ask;go");
         r.misprint(0, 0, 0);
         r.misprint(0, 2, 0);
         r.walker(0, 2, 0, 0, 0);
@@ -650,7 +639,7 @@ public final class PromiseTest {
     }
 
     private static void p19Questions() {
-        MondayMaps m = Desk.at(ROW);
+        MondayMaps m = Desk.at(Desk.ROW);
         m.print(0);
         m.misprint(0, 0, 0);
         m.walker(0, 2, 0, NONE, 0);
@@ -814,7 +803,7 @@ public final class PromiseTest {
     }
 
     private static void p27Had() {
-        MondayMaps m = Desk.at(ROW);
+        MondayMaps m = Desk.at(Desk.ROW);
         for (int i = 0; i < 3; i++) {
             m.print(0);
         }
@@ -995,7 +984,7 @@ public final class PromiseTest {
         m.sight(NONE, 0);
         m.came(1);
         m.seed(10);
-        Desk.town(m, ROW);
+        Desk.town(m, Desk.ROW);
         m.print(2);
         m.feed(0, 0, 0, 0, 0);
         due("p33 back", m.back(0), 1);

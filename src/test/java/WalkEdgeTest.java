@@ -2,8 +2,6 @@
 public final class WalkEdgeTest {
     private static final Desk DESK = new Desk("WalkEdgeTest");
     private static final int NONE = MondayMaps.NONE;
-    /** Three corners in a row, and a long street past the middle one. */
-    private static final String ROW = "corners 3;street 0 1 1 =======;street 1 2 1 =======;street 0 2 9 =======";
 
     public static void main(String[] args) {
         maps();
@@ -28,16 +26,6 @@ public final class WalkEdgeTest {
         for (int i = 0; i < want.length; i++) {
             DESK.due("about " + i, m.about(walker, i), want[i]);
         }
-    }
-
-    /** A town with a map of Monday and rules. */
-    private static MondayMaps with(String town, String... rules) {
-        MondayMaps m = Desk.at(town);
-        m.print(0);
-        for (int i = 0; i < rules.length; i++) {
-            DESK.due("'" + rules[i] + "'", Desk.rule(m, rules[i]), i);
-        }
-        return m;
     }
 
     private static void maps() {
@@ -155,7 +143,7 @@ public final class WalkEdgeTest {
 
     private static void walkers() {
         DESK.sentence("WALKERS 0 to 3: CORNER, goal, MAP, RULE (NONE: he goes), hour of his own");
-        MondayMaps m = with(ROW, "wait");
+        MondayMaps m = DESK.with(Desk.ROW, "wait");
         m.print(1);
         DESK.due("first", m.walker(0, 2, 0, NONE, 5), 0);
         DESK.due("second", m.walker(1, 0, 1, 0, 6), 1);
@@ -174,12 +162,12 @@ public final class WalkEdgeTest {
         DESK.sentence("A STEP: at his goal nothing (it is none)");
         String[] rules = {"go", "aside", "ask", "wait"};
         for (int i = NONE; i < 4; i++) {
-            MondayMaps m = with(ROW, rules);
+            MondayMaps m = DESK.with(Desk.ROW, rules);
             m.walker(1, 1, 0, i, 7);
             DESK.due("he stays", m.step(0, 200), 1);
             about(m, 0, 1, 1, 0, i, 7, 0, 0, NONE);
         }
-        MondayMaps m = with(ROW);
+        MondayMaps m = DESK.with(Desk.ROW);
         m.walker(0, 1, 0, NONE, 7);
         DESK.due("he comes, and stays", m.step(0, 200), 1);
         about(m, 0, 1, 1, 0, NONE, 8, 1, 0, 0);
@@ -189,7 +177,7 @@ public final class WalkEdgeTest {
         DESK.sentence("Else what the first CLAUSE tells that has no TEST, or whose TEST holds, and that may be done");
         // From corner 0 the map's way is lifted till six; street 1 aside is open on Mondays alone.
         String town = "corners 3;street 0 1 2 =======;street 0 2 3 >......;lift 0 0 6";
-        MondayMaps m = with(town, "go;aside;ask;wait", "aside if 1=2;go;ask", "wait;go", "go if shut=1;wait if 1=2;ask");
+        MondayMaps m = DESK.with(town, "go;aside;ask;wait", "aside if 1=2;go;ask", "wait;go", "go if shut=1;wait if 1=2;ask");
         m.walker(0, 1, 0, 0, 0);
         DESK.due("go may not be done: aside", m.step(0, 1), 2);
         DESK.due("from there no STREET is OPEN: he asks", m.step(0, 1), 2);
@@ -211,7 +199,7 @@ public final class WalkEdgeTest {
 
     private static void goes() {
         DESK.sentence("He GOES the STREET by his MAP (there is one, and it is OPEN)");
-        MondayMaps m = with("corners 3;street 0 1 2 =.=====;street 0 1 5 =======;street 1 2 1 =======", "go;ask if 1=2");
+        MondayMaps m = DESK.with("corners 3;street 0 1 2 =.=====;street 0 1 5 =======;street 1 2 1 =======", "go;ask if 1=2");
         m.walker(0, 1, 0, 0, 24);
         DESK.due("not OPEN, though another one is", m.step(0, 24), 0);
         DESK.due("OPEN on Wednesday", m.step(0, 1), 1);
@@ -229,7 +217,7 @@ public final class WalkEdgeTest {
         DESK.sentence("He goes ASIDE by the least STREET that is OPEN from his CORNER");
         String town = "corners 5;street 2 1 1 =======;street 0 1 1 <......;street 0 2 1 =======;street 0 3 1 =======;"
             + "street 3 0 1 =======;saint 2 1;lift 3 5 7";
-        MondayMaps m = with(town, "aside");
+        MondayMaps m = DESK.with(town, "aside");
         m.walker(0, 4, 0, 0, 0);
         DESK.due("not 0 (not his), not 1 (back): 2", m.step(0, 1), 2);
         m.walker(0, 4, 0, 0, 24 + 4);
@@ -241,7 +229,7 @@ public final class WalkEdgeTest {
         m.walker(4, 0, 0, 0, 0);
         DESK.due("none: he waits", m.step(3, 3), 4);
         about(m, 3, 4, 0, 0, 0, 3, 3, 0, NONE);
-        MondayMaps n = with(ROW, "aside");
+        MondayMaps n = DESK.with(Desk.ROW, "aside");
         n.walker(1, 0, 0, 0, 0);
         DESK.due("to his goal, too", n.step(0, 9), 0);
         about(n, 0, 0, 0, 0, 0, 1, 1, 0, 1);
@@ -249,7 +237,7 @@ public final class WalkEdgeTest {
 
     private static void asks() {
         DESK.sentence("He ASKS, if he did not on this DAY: an hour goes by");
-        MondayMaps m = with("corners 2", "ask");
+        MondayMaps m = DESK.with("corners 2", "ask");
         m.walker(0, 1, 0, 0, 22);
         int[] asked = {1, 1, 2, 2};
         for (int i = 0; i < 4; i++) {
@@ -290,14 +278,14 @@ public final class WalkEdgeTest {
         n.walker(0, 2, 0, 0, 13);
         DESK.due("at 23 it is not", n.comes(1, 200, 0), 24);
         // A walker may start a DAY with the number of an asking day in another week.
-        MondayMaps o = with("corners 2;street 0 1 1 .......", "ask");
+        MondayMaps o = DESK.with("corners 2;street 0 1 1 .......", "ask");
         o.walker(0, 1, 0, 0, 0);
         DESK.due("a week later he asks again", o.comes(0, 169, 2), 8);
     }
 
     private static void askedMap() {
         DESK.sentence("a copy of its weekday, without MISPRINTS");
-        MondayMaps m = with(ROW, "ask;go", "ask if left=9;go if left=2;wait");
+        MondayMaps m = DESK.with(Desk.ROW, "ask;go", "ask if left=9;go if left=2;wait");
         m.misprint(0, 1, 0);
         m.walker(0, 2, 0, 0, 0);
         DESK.due("by his MAP: the long street", m.by(0, 0, 2, 1), 2);
@@ -311,7 +299,7 @@ public final class WalkEdgeTest {
 
     private static void waits() {
         DESK.sentence("He WAITS: an hour goes by");
-        MondayMaps m = with(ROW, "wait");
+        MondayMaps m = DESK.with(Desk.ROW, "wait");
         m.walker(0, 2, 0, 0, 23);
         DESK.due("he waits", m.step(0, 1), 0);
         about(m, 0, 0, 2, 0, 0, 24, 1, 0, NONE);
@@ -321,7 +309,7 @@ public final class WalkEdgeTest {
 
     private static void withoutRule() {
         DESK.sentence("(Without a RULE: he goes, if he may, else waits.)");
-        MondayMaps m = with("corners 2;street 0 1 2 =======;lift 0 0 6", "ask");
+        MondayMaps m = DESK.with("corners 2;street 0 1 2 =======;lift 0 0 6", "ask");
         m.walker(0, 1, 0, NONE, 4);
         DESK.due("waits", m.step(0, 2), 0);
         about(m, 0, 0, 1, 0, NONE, 6, 2, 0, NONE);
