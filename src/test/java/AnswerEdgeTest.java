@@ -25,6 +25,7 @@ public final class AnswerEdgeTest {
         counts();
         back();
         nothingChanges();
+        nothingIsBuilt();
         facts();
         DESK.close();
     }
@@ -441,6 +442,31 @@ public final class AnswerEdgeTest {
                 n.weekdays(1);
             }
             DESK.holds(s + ": as if not asked", Scene.picture(n).equals(Scene.picture(s.set())));
+        }
+    }
+
+    /** The STREET that was tried last, between the last two CORNERS, is on no WAY, and is not one of the WAYS. */
+    private static void nothingIsBuilt() {
+        DESK.sentence("the street that should be built");
+        MondayMaps m = DESK.with("corners 4;street 0 2 1 >>>>>>>;street 0 1 1 >>>>>>>;street 1 3 1 >>>>>>>", "aside");
+        m.walker(2, 3, 0, 0, 0);
+        m.walker(2, 3, 0, NONE, 0);
+        for (int i = 0; i < 2; i++) {
+            DESK.due("soonest", m.soonest(0, 3, 0), 2);
+            DESK.due("from 2 not", m.soonest(2, 3, 0), -2);
+            DESK.due("the WAY", m.way(0, 3, 0, 0), 1);
+            DESK.due("the WAY on", m.way(0, 3, 0, 1), 2);
+            m.errand(NONE, 0);
+            m.errand(2, 3);
+            DESK.due("by 0, the first one back", m.ways(0, 0), 1);
+            m.errand(3, 2);
+            DESK.due("not there and back", m.ways(0, 1), 3);
+            DESK.due("on no MAP", m.by(0, 2, 3, 0), -2);
+            DESK.due("not aside by it", m.comes(0, 9, 0), -2);
+            DESK.due("by no question", m.questions(1, 120), -2);
+            DESK.due("all SIGNS are true", m.wrong(7), 0);
+            DESK.due("no STREET 3", m.street(3, 0), NONE);
+            DESK.due("its sum", m.built(1, 0, 2), 2);
         }
     }
 
